@@ -85,8 +85,7 @@ public final class ModelTest {
         } else if (way < 23) {
             writeRows();
         } else if (way < 26) {
-            same("keep", random.nextInt(3));
-            any("on", wide);
+            goAwayAndBack(random.nextInt(3));
         } else if (way < 40) {
             String[] deeds = {"raise", "sink", "move", "shut"};
             any(deeds[random.nextInt(4)], wide);
@@ -162,6 +161,17 @@ public final class ModelTest {
         same("places", i, r);
         same("asked");
         same("test", i, r);
+    }
+
+    /** A SCREEN kept, other DEEDS by the same numbers, then the kept one, and its DEEDS undone. */
+    private void goAwayAndBack(int k) throws Exception {
+        same("keep", k);
+        same("undo", random.nextInt(y.past.size() + 1));
+        same("lots", 1 + random.nextInt(10), 1 + random.nextInt(2147483646));
+        same("on", k);
+        if (random.nextBoolean()) {
+            same("undo", random.nextInt(y.past.size() + 1));
+        }
     }
 
     private void any(String name, int wide) throws Exception {

@@ -258,6 +258,10 @@ public final class PromiseTest {
         told(x, "mean of the greatest", x.mean(0), 1, MOST);
         fill(x, 0, LEAST, LEAST);
         told(x, "mean of the least", x.mean(0), 1, LEAST);
+        x.row(0, 40);
+        x.lay(0, 0, 40);
+        x.lay(0, 39, 40);
+        told(x, "mean of 40", x.mean(0), 1, 2);
     }
 
     private static void text() {
@@ -327,6 +331,7 @@ public final class PromiseTest {
         faultIs("p0811p0011", 2);
         faultIs("p0911p0011", 2);
         faultIs("p00 1p0011", 3);
+        faultIs("p00:1p0011", 3);
         faultIs("p0001p0011", 3);
         faultIs("p4091p0011", 3);
         faultIs("p9041p0011", 3);
@@ -337,6 +342,9 @@ public final class PromiseTest {
         faultIs("p0712p0011", 4);
         faultIs("p/011p0011", 1);
         faultIs("p:011p0011", 1);
+        faultIs("p0011" + " ".repeat(52) + "p00", 60);
+        faultIs("p0011" + " ".repeat(50) + "p0011", NONE);
+        faultIs(" ".repeat(60), 60);
         faultIs(seven + "p0011", 35);
         faultIs(seven + "  x", 37);
         faultIs(seven + "  p", 37);
@@ -355,7 +363,10 @@ public final class PromiseTest {
         due("PANES", x.count(0), 2);
         x.raise(0);
         x.shut(1);
-        x.keep(2);
+        for (int k = 0; k < 3; k++) {
+            x.keep(k);
+        }
+        x.shift(0);
         write(x, 1, "g1122");
         long before = x.digest();
         due("a fault", x.screen(1), STATE);
@@ -367,7 +378,9 @@ public final class PromiseTest {
         due("another one", x.screen(1), 3);
         due("no DEEDS", x.count(2), 0);
         due("no kept SCREENS", x.count(8), 0);
-        due("on()", x.on(2), FINDING);
+        for (int k = 0; k < 3; k++) {
+            due("on()", x.on(k), FINDING);
+        }
         due("all OPEN", x.count(1), 3);
         orderIs(x, "012");
         x.raise(0);
@@ -501,6 +514,10 @@ public final class PromiseTest {
         spendDeeds(x);
         due("full", x.raise(0), FULL);
         due("full, the last", x.raise(3), STATE);
+        x.undo(39);
+        due("the 40th", x.raise(1), 1);
+        x.undo(39);
+        x.shut(0);
         due("full, none", x.raise(4), BAD);
         orderIs(x, "0123");
     }
@@ -673,6 +690,31 @@ public final class PromiseTest {
         due("on(-1)", x.on(-1), BAD);
         found(x, "on of none", 1, x.on(0), NOTHING);
         due("as it was", x.digest(), kept);
+        deedsAreKept();
+    }
+
+    /** Other DEEDS by the same numbers come between. */
+    private static void deedsAreKept() {
+        PaneOrder x = on("p4433 p1122 g5533");
+        int[] first = {tell(x, 0, 1), tell(x, 0, 2), tell(x, 1, 1), tell(x, 1, 2)};
+        x.move(0, 1, -3);
+        x.raise(1);
+        x.move(1, -1, 2);
+        x.shut(2);
+        x.keep(0);
+        x.undo(0);
+        x.shut(1);
+        x.move(2, 1, -2);
+        x.shut(0);
+        x.move(2, 1, -1);
+        due("on", x.on(0), 4);
+        due("undone", x.undo(0), 4);
+        due("LEFT of 0", tell(x, 0, 1), first[0]);
+        due("TOP of 0", tell(x, 0, 2), first[1]);
+        due("LEFT of 1", tell(x, 1, 1), first[2]);
+        due("TOP of 1", tell(x, 1, 2), first[3]);
+        due("OPEN", x.count(1), 3);
+        orderIs(x, "012");
     }
 
     // ---- 3 what is seen
@@ -749,6 +791,8 @@ public final class PromiseTest {
         x.shut(5);
         x.shut(2);
         told(x, "SHUT ones are none of them", x.free(0), 2 | 16 | 64, 3);
+        x.raise(0);
+        told(x, "by THE ORDER", x.free(1), 1, 1);
         due("SHUT", x.free(5), STATE);
         due("free(7)", x.free(7), BAD);
         due("free(-1)", x.free(-1), BAD);
@@ -832,6 +876,10 @@ public final class PromiseTest {
         due("none", x.kinds(0, 0), 0);
         fill(x, 0, 90, -1);
         due("elsewhere", x.kinds(0, 0), 63);
+        x.row(0, 40);
+        x.lay(0, 38, 13);
+        x.lay(0, 39, -1);
+        due("the last of 20 pairs", x.kinds(0, 0), 2 | 16);
         PaneOrder y = on("p0022 p0022 m0011");
         fill(y, 0, 0, 0);
         due("over the other one", y.kinds(0, 0), 8);
@@ -902,6 +950,15 @@ public final class PromiseTest {
         told(x, "all KINDS", x.test(0, 0), 16, 3);
         fill(x, 0, 13, -1);
         told(x, "FRAME or HOOK", x.test(0, 0), 16, 1);
+        PaneOrder y = on("p0011 p9711");
+        y.row(0, 0);
+        told(y, "the first CELL", y.test(0, 0), 0, 5);
+        y = on("p1011 p9711");
+        y.row(0, 0);
+        told(y, "the second CELL", y.test(0, 0), 1, 4);
+        y = on("p0011 p0011 p0011 p0011 p0011 p0011 p0011");
+        y.row(0, 0);
+        told(y, "over seven", y.test(6, 0), 0, 5);
         fill(x, 0, 0, -1);
         told(x, "one alone", x.test(0, 0), 0, 1);
         fill(x, 0, 1, 0, 14, 0);
